@@ -910,19 +910,16 @@ public final class HalfByFive {
                     // to the word's end
                 }
             } else if (isFigure(c)) {
-                stepOverNumber();
+                number = 0;
+                for (; next < length && isFigure(byteAt(next)); next++) {
+                    number = 10 * number + byteAt(next) - '0';
+                }
+                // A number with a third figure is none, as a whole.
+                token = next - start <= 2 ? NUMBER : FOREIGN;
             } else {
                 token = c == ';' ? STOP : FOREIGN;
                 next++;
             }
-        }
-
-        private void stepOverNumber() {
-            number = 0;
-            for (; next < length && isFigure(byteAt(next)); next++) {
-                number = 10 * number + byteAt(next) - '0';
-            }
-            token = next - start <= 2 ? NUMBER : FOREIGN;
         }
 
         private boolean isWord(String word) {

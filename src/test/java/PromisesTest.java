@@ -267,6 +267,23 @@ public final class PromisesTest {
         due.is("eight buyers", reads(x, "market 0 0;buyer 0 0 0 1;buyer 0 0 0 1;buyer 0 0 0 1;buyer 0 0 0 1;"
             + "buyer 0 0 0 1;buyer 0 0 0 1;buyer 0 0 0 1;buyer 0 0 0 1;"), 9);
         for (int i = 0; i < 3; i++) due.is("status(" + i + ")", x.status(i), 0);
+        readEdges(x);
+    }
+
+    private static void readEdges(HalfByFive x) {
+        due.is("the least numbers", reads(x, "market 0 0;price 0 0;theirs 0 1;rain 0;buyer 0 0 0 1;"), 5);
+        due.is("of(0, 0)", x.of(0, 0), 0);
+        due.is("of(0, 1)", x.of(0, 1), 1);
+        due.is("of(0, 2)", x.of(0, 2), 1);
+        due.is("the greatest numbers", reads(x, "market 99 9;price 9 99;theirs 9 99;rain 9;buyer 5 9 99 3;"), 5);
+        due.is("of(9, 0)", x.of(9, 0), 99);
+        due.is("of(9, 1)", x.of(9, 1), 99);
+        due.is("of(9, 2)", x.of(9, 2), 1);
+        due.is("about(0, 0)", x.about(0, 0), 5);
+        due.is("a shorter text behind a longer one", reads(x, "market 9 9"), -20);
+        due.is("a shorter text behind a longer one", reads(x, "mark"), -10);
+        due.is("a text of 150 bytes", reads(x, "market 1 2;" + "rain 1;".repeat(19) + "rain2;"), 21);
+        due.is("count(7)", x.count(7), 150);
     }
 
     private static void fault(String text, int place) {
@@ -288,6 +305,14 @@ public final class PromisesTest {
         fault("market 1 1", 10);
         fault("market 1 1 ", 11);
         fault("marke", 0);
+        fault("marketz 1 1;", 0);
+        fault("zarket 1 1;", 0);
+        fault("market{1 1;", 6);
+        fault("market`1 1;", 6);
+        fault("market/1 1;", 6);
+        fault("market:1 1;", 6);
+        fault("market 1 1;1;", 11);
+        fault("market 1 1;1 2;", 11);
         fault("Market 1 1;", 0);
         fault("1 market 1 1;", 0);
         fault(";market 1 1;", 0);
@@ -311,6 +336,11 @@ public final class PromisesTest {
         fault("market 1 1;price 9 100;", 19);
         fault("market 1 1;price 9 x;", 19);
         fault("market 1 1;theirs 10 1;", 18);
+        fault("market 1 1;theirs x;", 18);
+        fault("market 1 1;theirs 1;", 19);
+        fault("market 1 1;buyer;", 16);
+        fault("market 1 1;buyer 1;", 18);
+        fault("market 1 1;buyer 1 1;", 20);
         fault("market 1 1;theirs 9 100;", 20);
         fault("market 1 1;theirs 9 9 9;", 22);
         fault("market 1 1;rain 10;", 16);
@@ -370,6 +400,10 @@ public final class PromisesTest {
         x.price(5, 40);
         x.day();
         due.is("a lower price earlier", x.about(0, 0), 0);
+        x.price(6, 19);
+        x.price(7, 40);
+        x.day();
+        due.is("a lower price in the next hour alone", x.about(0, 0), 1);
         x = withBuyer(0, 5, 99, 1);
         x.price(9, 1);
         x.theirs(5, 39);
@@ -444,6 +478,7 @@ public final class PromisesTest {
         x.rain(8);
         due.is("of(3, 2)", x.of(3, 2), 1);
         due.is("of(3, 3) with rain", x.of(3, 3), 2);
+        due.is("of(0, 3)", withBuyer(0, 0, 40, 3).of(0, 3), 3);
         long was = x.digest();
         int[][] wrong = {{-1, 0}, {10, 0}, {0, -1}, {0, 4}};
         for (int[] w : wrong) refused(x, "of", x.of(w[0], w[1]), BAD, was);
@@ -649,6 +684,10 @@ public final class PromisesTest {
         due.is("status(0)", x.status(0), 6);
         due.is("an empty market", new HalfByFive().stalls(40, 20, 0), 121);
         restsWithWaiting();
+        x.bring(0);
+        // With nothing to sell here, only the neighbour cares: 20 in hour 0 while this one is at 40.
+        due.is("stalls(40, 20, 0) with no punnets", x.stalls(40, 20, 0), 11 + 10);
+        due.is("stalls(40, 20, 1) with no punnets", x.stalls(40, 20, 1), 0);
     }
 
     /**
