@@ -71,15 +71,20 @@ public final class FaceTest {
         for (Class<?> c : inside) {
             due.holds(c + " is static", Modifier.isStatic(c.getModifiers()));
             due.holds(c + " is not public or protected", (c.getModifiers() & (Modifier.PUBLIC | Modifier.PROTECTED)) == 0);
-            int fields = 0;
-            for (Field f : c.getDeclaredFields()) {
-                if (!Modifier.isStatic(f.getModifiers())) fields++;
-                else due.holds(f + " is final", Modifier.isFinal(f.getModifiers()));
-            }
-            due.holds(c + " has some twenty fields", fields <= 20);
-            for (Method m : c.getDeclaredMethods()) {
-                due.holds(m + " has at most seven parameters", m.getParameterCount() <= 7);
-            }
+            members(c);
+        }
+        members(HalfByFive.class);
+    }
+
+    private static void members(Class<?> c) {
+        int fields = 0;
+        for (Field f : c.getDeclaredFields()) {
+            if (!Modifier.isStatic(f.getModifiers())) fields++;
+            else due.holds(f + " is final", Modifier.isFinal(f.getModifiers()));
+        }
+        due.holds(c + " has some twenty fields", fields <= 20);
+        for (Method m : c.getDeclaredMethods()) {
+            due.holds(m + " has at most seven parameters", m.getParameterCount() <= 7);
         }
     }
 
