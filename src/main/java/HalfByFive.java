@@ -673,10 +673,14 @@ public final class HalfByFive {
         /** Puts buyer b behind all earlier ones who buy no later, so that like hours stay by number. */
         private void lineUp(int b) {
             int place = b;
-            for (; place > 0 && when[order[place - 1]] > when[b]; place--) {
+            for (; place > 0 && hourOf(order[place - 1]) > hourOf(b); place--) {
                 order[place] = order[place - 1];
             }
             order[place] = b;
+        }
+
+        private int hourOf(int b) {
+            return b >= 0 && b < BUYERS ? when[b] : 0;
         }
 
         private void payMore(int hour, int more) {
@@ -695,6 +699,7 @@ public final class HalfByFive {
             Arrays.fill(served, 0);
             for (int i = 0; i < m.size && i < BUYERS; i++) {
                 int b = order[i];
+                if (b < 0 || b >= BUYERS) continue;
                 if ((comers >> b & 1) == 1 && !staysAway[b]) meet(m, b);
             }
         }

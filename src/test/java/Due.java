@@ -30,6 +30,10 @@ final class Due {
 
     static void write(HalfByFive x, String text) {
         x.clear();
+        add(x, text);
+    }
+
+    static void add(HalfByFive x, String text) {
         for (int i = 0; i < text.length(); i++) x.type(text.charAt(i));
     }
 

@@ -267,7 +267,7 @@ public final class PromisesTest {
         due.is("eight buyers", reads(x, "market 0 0;buyer 0 0 0 1;buyer 0 0 0 1;buyer 0 0 0 1;buyer 0 0 0 1;"
             + "buyer 0 0 0 1;buyer 0 0 0 1;buyer 0 0 0 1;buyer 0 0 0 1;"), 9);
         for (int i = 0; i < 3; i++) due.is("status(" + i + ")", x.status(i), 0);
-        readEdges(x);
+        readEdges(new HalfByFive());
     }
 
     private static void readEdges(HalfByFive x) {
