@@ -45,7 +45,7 @@ public final class FaceTest {
             else methods.add(told(m));
         }
         same("methods", methods, new TreeSet<>(Arrays.asList(FACE.split(";"))));
-        for (String name : hidden) due.holds("no private " + name, !FACE.matches("(.*[ ;])?" + name + "\\(.*"));
+        for (String name : hidden) due.holds("no private " + name, !isOfTheFace(name));
         Set<String> fields = new TreeSet<>();
         for (Field f : c.getDeclaredFields()) {
             if (!Modifier.isPrivate(f.getModifiers())) fields.add(Modifier.toString(f.getModifiers()) + " " + f.getName());
@@ -55,6 +55,10 @@ public final class FaceTest {
         Constructor<?>[] made = c.getDeclaredConstructors();
         due.is("constructors", made.length, 1);
         due.holds("public HalfByFive()", Modifier.isPublic(made[0].getModifiers()) && made[0].getParameterCount() == 0);
+    }
+
+    private static boolean isOfTheFace(String name) {
+        return FACE.matches("(.*[ ;])?" + name + "\\(.*");
     }
 
     private static String told(Method m) {
@@ -71,6 +75,7 @@ public final class FaceTest {
         for (Class<?> c : inside) {
             due.holds(c + " is static", Modifier.isStatic(c.getModifiers()));
             due.holds(c + " is not public or protected", (c.getModifiers() & (Modifier.PUBLIC | Modifier.PROTECTED)) == 0);
+            for (Method m : c.getDeclaredMethods()) due.holds(m + " has a name of its own", !isOfTheFace(m.getName()));
             members(c);
         }
         members(HalfByFive.class);
