@@ -107,5 +107,25 @@ public final class FaceTest {
         for (String sign : new String[] {"->", "::", "@", "while (true)", "for (;;)"}) {
             due.holds("no " + sign, !code.contains(sign));
         }
+        library(code);
+        methodLengths(text);
+    }
+
+    private static void library(String code) {
+        due.in("rule 4");
+        Set<String> listed = Set.of("Arrays.fill", "System.arraycopy", "Math.max", "Math.min", "Integer.bitCount");
+        Matcher m = Pattern.compile("\\b([A-Z]\\w*\\.\\w+)\\(").matcher(code);
+        while (m.find()) due.holds(m.group(1) + " is of the library that is listed", listed.contains(m.group(1)));
+    }
+
+    private static void methodLengths(String text) {
+        due.in("rule 11");
+        Matcher m = Pattern.compile("(?ms)^( {4}| {8})([^ \\n][^\\n]*\\)) \\{\\n(.*?)^\\1\\}\\n").matcher(text);
+        int methods = 0;
+        while (m.find()) {
+            methods++;
+            due.holds(m.group(2) + " is short", m.group(3).split("\n").length <= 60);
+        }
+        due.holds("methods were found", methods > HalfByFive.class.getDeclaredMethods().length);
     }
 }
